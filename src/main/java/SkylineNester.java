@@ -474,7 +474,6 @@ public final class SkylineNester {
             w = itsW;
             h = itsH;
             figure = itsFigure;
-            how = NOT_LYING;
         }
 
         void becomeLike(Part other) {

@@ -173,6 +173,13 @@ public final class BoundsTest {
         z.fix(0, 0, 0);
         D.due("layouts of none", z.layouts(0), 0);
         D.due("layouts of none, most", z.layouts(1), 0);
+        // 4, 3 side by side, 2 over 1 wasted, then 1 at y 4 and 0 at y 8; all other orders leave one out
+        SkylineNester v = Due.nester(2, "g2x2:4 s1x4:4 h2x2:2 p1x1:2 s1x2:3");
+        v.order(NONE);
+        D.due("only the last order: top", v.best(-1), 10);
+        for (int k = 0; k < 5; k++) D.due("only the last order: best(" + k + ")", v.best(k), 4 - k);
+        D.due("only the last order: layouts", v.layouts(0), 1);
+        D.due("only the last order: most", v.layouts(1), 1);
         SkylineNester w = Due.nester(2, "p1x1 p1x1");
         w.fix(0, 0, 8);
         D.due("top of the fixed one", w.best(-1), 9);
@@ -220,6 +227,13 @@ public final class BoundsTest {
         y.order(NONE);
         D.due("in the middle", y.layouts(0), 1);
         D.due("in the middle, most", y.layouts(1), 2);
+        // as many as there may be: five in the order, five fixed
+        SkylineNester w = Due.nester(5, "p1x1*9 p1x1");
+        for (int k = 0; k < 5; k++) w.fix(2 * k, k, 30 + k % 2);
+        w.order(NONE);
+        D.due("ten lie", w.layouts(0), 1);
+        D.due("ten lie, most", w.layouts(1), 120);
+        D.due("ten lie, best", w.best(-1), 32);
         // some orders don't lay all
         SkylineNester z = Due.nester(2, "p2x1 s2x1:2 p2x2");
         z.order(NONE);

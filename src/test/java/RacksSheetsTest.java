@@ -152,7 +152,7 @@ public final class RacksSheetsTest {
     }
 
     private static void imageKeeps() {
-        SkylineNester x = Due.nester(6, "p1x2 p6x1 t2x1:3 c1x1 p1x1");
+        SkylineNester x = Due.nester(6, "p1x2 p6x1 t1x4:3 c1x1 p1x1");
         x.fix(4, 5, 9);
         Due.order(x, 0, 2, 0, 1);
         x.rule(3, 0);
@@ -199,10 +199,20 @@ public final class RacksSheetsTest {
         x.lay(NONE);
         x.swap(0, 2);
         x.fix(4, NONE, 0);
+        x.rule(0, 1);
+        x.lay(2);
+        x.lay(4);
+        x.lay(0);
+        x.lay(1);
+        D.dueRow("another skyline", Due.heights(x), 5, 5, 5, 5, 5, 5);
+        D.dueRow("another waste", Due.waste(x), 3, 0, 3, 4, 1, 1, 1, 3, 2, 2, 1, 2);
+        D.dueRow("it lies as it is", Due.lies(x, 2), 0, 0, 0, 2);
         x.back();
         D.dueRow("skyline again", Due.heights(x), heights);
         D.dueRow("waste again", Due.waste(x), waste);
         D.due("order again", x.swap(0, 0), 2);
+        D.dueRow("how one lies again", Due.lies(x, 2), lies);
+        D.due("it was turned over", lies[2], 1);
         D.dueRow("fixed again", Due.lies(x, 4), 5, 9, 0, 1);
         x.lay(3);
         D.due("a later image", x.image(), 5);
