@@ -71,6 +71,10 @@ public final class BoundsTest {
         // areas 20 by 7: 3; e 3: 4
         D.due("areas", x.bound(0), 3);
         D.due("e 3 is better", x.bound(7), 4);
+        // WIDE 9, e 4: 6 is above 5, so it is whole: 45 + 12 = 57 by 9: 7, more than all others
+        SkylineNester w = Due.nester(9, "p6x5 p4x3");
+        w.order(NONE);
+        bounds("the greatest is that by e", w, 5, 5, 5, 5, 5, 5, 6, 7, 7);
         SkylineNester y = Due.nester(1, "p1x3");
         y.order(NONE);
         D.due("no e by WIDE 1", y.bound(7), 0);
