@@ -228,46 +228,8 @@ public final class BoundsEdgesTest {
 
     // ---- promise 17
 
-    /** All orders of the parts of an order, by numbers, as runs of an object of its own. */
-    private static final class Runs {
-        private final SkylineNester x;
-        private final int[] parts;
-        int top = NONE;
-        int[] first = {};
-        int all = 0;
-
-        Runs(Supplier<SkylineNester> making) {
-            x = making.get();
-            parts = new int[x.count(1)];
-            for (int i = 0; i < parts.length; i++) parts[i] = x.swap(i, i);
-            java.util.Arrays.sort(parts);
-            go(0, new int[parts.length], 0);
-        }
-
-        private void go(int at, int[] taken, int used) {
-            if (at == parts.length) {
-                look(taken);
-                return;
-            }
-            for (int i = 0; i < parts.length; i++) {
-                if ((used >> i & 1) != 0) continue;
-                taken[at] = parts[i];
-                go(at + 1, taken, used | 1 << i);
-            }
-        }
-
-        private void look(int[] taken) {
-            Due.order(x, 2, taken);
-            if (x.run() < taken.length) return;
-            all++;
-            if (top != NONE && x.count(3) >= top) return;
-            top = x.count(3);
-            first = taken.clone();
-        }
-    }
-
     private static void best() {
-        Runs four = new Runs(Edge::rich);
+        Thought four = new Thought(Edge::rich);
         E.still(17, "k -1: TOP", Edge::rich, x -> x.best(-1), four.top);
         for (int k = 0; k < 4; k++) {
             int asked = k;
@@ -277,7 +239,7 @@ public final class BoundsEdgesTest {
         E.still(17, "-12: k -2", Edge::rich, x -> x.best(-2), -12);
         E.still(17, "-12: k MIN", Edge::rich, x -> x.best(MIN), -12);
         E.still(17, "-12: k MAX", Edge::rich, x -> x.best(MAX), -12);
-        Runs all = new Runs(BoundsEdgesTest::five);
+        Thought all = new Thought(BoundsEdgesTest::five);
         E.still(17, "5: TOP", BoundsEdgesTest::five, x -> x.best(-1), all.top);
         for (int k = 0; k < 5; k++) {
             int asked = k;
@@ -306,7 +268,7 @@ public final class BoundsEdgesTest {
         SkylineNester v = Due.nester(2, "g2x2:4 s1x4:4 h2x2:2 p1x1:2 s1x2:3");
         v.order(NONE);
         for (int k = 0; k < 5; k++) E.is(17, "the last order by numbers", v.best(k), 4 - k);
-        E.is(17, "the last order's TOP", v.best(-1), new Runs(() -> ordered(2, "g2x2:4 s1x4:4 h2x2:2 p1x1:2 s1x2:3")).top);
+        E.is(17, "the last order's TOP", v.best(-1), new Thought(() -> ordered(2, "g2x2:4 s1x4:4 h2x2:2 p1x1:2 s1x2:3")).top);
         // a lower TOP that doesn't lay all is none: s1x9:2 behind p2x1 is left out at TOP 1
         SkylineNester y = ordered(2, "p2x1 s1x9:2");
         E.is(17, "by which all are LAID", y.best(-1), 10);
@@ -544,40 +506,18 @@ public final class BoundsEdgesTest {
 
     // ---- promises 21 and 22
 
-    private static int[] numbers(int seed, int n, int many) {
-        int[] row = new int[n];
-        BigInteger z = BigInteger.valueOf(seed);
-        BigInteger turns = BigInteger.ONE.shiftLeft(32);
-        for (int k = 0; k < n; k++) {
-            z = z.multiply(BigInteger.valueOf(1103515245)).add(BigInteger.valueOf(12345)).mod(turns);
-            row[k] = z.shiftRight(9).mod(BigInteger.valueOf(many)).intValue();
-        }
-        return row;
-    }
-
     private static SkylineNester drawing() {
         SkylineNester x = ordered(5, "p3x2 p2x5 p4x1 p1x4 p5x1 p2x2");
         x.rule(0, 0);
         return x;
     }
 
-    /** TOP by exchanges and a RUN that are really made. */
-    private static int topBySwaps(Supplier<SkylineNester> making, int seed, int n) {
-        SkylineNester x = making.get();
-        if (x.count(1) > 0) {
-            int[] row = numbers(seed, 2 * n, x.count(1));
-            for (int k = 0; k < n; k++) x.swap(row[2 * k], row[2 * k + 1]);
-        }
-        x.run();
-        return x.count(3);
-    }
-
     private static void drawn() {
         for (int n : new int[] {-1, 21, MIN, MAX}) E.still(21, "BAD: n " + n, Edge::rich, x -> x.drawn(1, n), BAD);
         for (int n : new int[] {0, 1, 19, 20}) {
-            E.still(21, "n " + n, Edge::rich, x -> x.drawn(1, n), topBySwaps(Edge::rich, 1, n));
+            E.still(21, "n " + n, Edge::rich, x -> x.drawn(1, n), Thought.topBySwaps(Edge::rich, 1, n));
         }
-        E.is(21, "n 0: a RUN", drawing().drawn(77, 0), topBySwaps(BoundsEdgesTest::drawing, 77, 0));
+        E.is(21, "n 0: a RUN", drawing().drawn(77, 0), Thought.topBySwaps(BoundsEdgesTest::drawing, 77, 0));
         E.is(21, "BAD: an empty ORDER", new SkylineNester().drawn(1, 21), BAD);
         E.is(21, "no draws if it is empty", new SkylineNester().drawn(1, 20), 0);
         E.still(21, "no draws if it is empty: TOP of FIXED ones", BoundsEdgesTest::emptyOrder, x -> x.drawn(1, 20), 10);
@@ -585,25 +525,25 @@ public final class BoundsEdgesTest {
         // two places: exchanged or not is all there is; by p2x1 first s1x1:2 is left out
         int[] tops = {1, 2};
         for (int seed = 0; seed < 20; seed++) {
-            int top = topBySwaps(() -> ordered(2, "s1x1:2 p2x1"), seed, 1);
+            int top = Thought.topBySwaps(() -> ordered(2, "s1x1:2 p2x1"), seed, 1);
             E.is(21, "two places", ordered(2, "s1x1:2 p2x1").drawn(seed, 1), top);
             tops[top - 1] = 0;
         }
         E.row(21, "both were met", tops, 0, 0);
         SkylineNester ten = ordered(6, "p1x1 p2x1 p3x1 p4x1 p5x1 p1x2 p2x2 p3x2 p4x2 p5x2");
         Supplier<SkylineNester> making = () -> ordered(6, "p1x1 p2x1 p3x1 p4x1 p5x1 p1x2 p2x2 p3x2 p4x2 p5x2");
-        for (int seed = 0; seed < 30; seed++) E.is(21, "10 places", ten.drawn(seed, 20), topBySwaps(making, seed, 20));
+        for (int seed = 0; seed < 30; seed++) E.is(21, "10 places", ten.drawn(seed, 20), Thought.topBySwaps(making, seed, 20));
     }
 
     private static void drawnSeeds() {
         int[] seeds = {0, 1, -1, MAX, MIN, MAX - 1, MIN + 1, 1103515245, -12345, 1 << 30};
         for (int seed : seeds) {
             for (int n = 0; n <= 20; n++) {
-                E.is(21, "SEED " + seed + ", n " + n, drawing().drawn(seed, n), topBySwaps(BoundsEdgesTest::drawing, seed, n));
+                E.is(21, "SEED " + seed + ", n " + n, drawing().drawn(seed, n), Thought.topBySwaps(BoundsEdgesTest::drawing, seed, n));
             }
         }
         // SEED 0: z is 12345, then the int -740551042, which is 3554416254 without a sign
-        E.row(21, "z is an int, >>> makes it no number below 0", numbers(0, 2, 5), 24 % 5, (-740551042 >>> 9) % 5);
+        E.row(21, "z is an int, >>> makes it no number below 0", Thought.numbers(0, 2, 5), 24 % 5, (-740551042 >>> 9) % 5);
     }
 
     private static void chance() {
@@ -632,7 +572,7 @@ public final class BoundsEdgesTest {
         boolean[] met = new boolean[9];
         for (int seed : new int[] {1, 40, 1000, -5, MAX, MAX - 3, MAX - 7, MIN}) {
             int[] tops = new int[8];
-            for (int k = 0; k < 8; k++) tops[k] = topBySwaps(BoundsEdgesTest::drawing, seed + k, 6);
+            for (int k = 0; k < 8; k++) tops[k] = Thought.topBySwaps(BoundsEdgesTest::drawing, seed + k, 6);
             for (int m = 1; m <= 8; m++) {
                 for (int top = 6; top < 14; top++) {
                     int low = 0;
@@ -647,8 +587,8 @@ public final class BoundsEdgesTest {
         }
         for (int low = 1; low <= 6; low++) E.is(22, low + " of 8 was met", met[low] ? 1 : 0, 1);
         // SEED MAX: the next is MIN
-        int most = topBySwaps(BoundsEdgesTest::drawing, MAX, 6);
-        int next = topBySwaps(BoundsEdgesTest::drawing, MIN, 6);
+        int most = Thought.topBySwaps(BoundsEdgesTest::drawing, MAX, 6);
+        int next = Thought.topBySwaps(BoundsEdgesTest::drawing, MIN, 6);
         E.is(22, "MAX and MIN come to unlike TOPS", most == next ? 1 : 0, 0);
         E.is(22, "behind MAX the next is MIN: above", drawing().chance(MAX, 2, Math.min(most, next), 0), 1);
         E.is(22, "behind MAX the next is MIN: below", drawing().chance(MAX, 2, Math.min(most, next), 1), 2);

@@ -3,7 +3,8 @@ import java.util.List;
 
 /**
  * A strip with some PARTS FIXED; the others but the last are LAID by number, then the last is looked at. That is done
- * by place (promise 11), by lay (12), and by a RUN of all of them (13); a RUN in thought (21) comes to the same TOP.
+ * by place (promise 11), by lay (12), and by a RUN of all of them (13); what is RUN in thought (17, 18, 21 to 23) is
+ * compared with RUNS that are really made.
  */
 final class Scene {
     private final Edge edge;
@@ -38,6 +39,13 @@ final class Scene {
         SkylineNester n = Due.nester(wide, items);
         n.rule(rule, usesWaste);
         for (int[] f : fixed) edge.is(7, "a scene's FIXED one: " + items, n.fix(f[0], f[1], f[2]), 1);
+        return n;
+    }
+
+    /** None is laid, all that aren't FIXED are in THE ORDER. */
+    private SkylineNester ordered() {
+        SkylineNester n = begin();
+        n.order(Due.NONE);
         return n;
     }
 
@@ -76,13 +84,13 @@ final class Scene {
         edge.row(12, told, Due.lies(n, last), x, y, turned, 2 + inWaste);
         edge.is(12, told + ", how many lie", n.count(2), many + 1);
         int top = n.count(3);
-        SkylineNester r = begin();
-        r.order(Due.NONE);
+        SkylineNester r = ordered();
         edge.is(21, told + ", in thought", r.drawn(1, 0), top);
         edge.is(13, told, r.run(), many + 1 - fixed.size());
         edge.row(13, told, Due.lies(r, last), x, y, turned, 2 + inWaste);
         edge.row(13, told, Due.heights(r), Due.heights(n));
         edge.row(13, told, Due.waste(r), Due.waste(n));
+        Thought.check(edge, told, this::ordered);
     }
 
     void nowhere(String sentence) {
@@ -94,10 +102,10 @@ final class Scene {
         }
         edge.still(12, told, this::made, n -> n.lay(last), Due.NONE);
         SkylineNester n = made();
-        SkylineNester r = begin();
-        r.order(Due.NONE);
+        SkylineNester r = ordered();
         edge.is(13, told, r.run(), n.count(2) - fixed.size());
         edge.row(13, told, Due.lies(r, last), Due.NONE, Due.NONE, Due.NONE, 0);
         edge.row(13, told, Due.heights(r), Due.heights(n));
+        Thought.check(edge, told, this::ordered);
     }
 }
